@@ -127,6 +127,11 @@ public final class GrowthTest {
     private static void promise18() {
         HalftoneScreens x = with(3, 1, -1, 3, 0);
         Due.same("inked without a tint", x.inked(0, 0, 0, 64, 64), 0);
+        x.setTint(0, 1);
+        Due.same("inked(0, 0, 0, 4, 2)", x.inked(0, 0, 0, 4, 2), 2);
+        Due.same("inked(0, -1, 3, 4, 2)", x.inked(0, -1, 3, 4, 2), 2);
+        Due.same("inked(0, 0, 0, 2, 4)", x.inked(0, 0, 0, 2, 4), 1);
+        Due.same("inked(0, 1, -3, 4, 2)", x.inked(0, 1, -3, 4, 2), 2);
         x.setTint(0, 4);
         Due.same("inked(0, -3, -7, 10, 1)", x.inked(0, -3, -7, 10, 1), 4);
         Due.same("inked(0, 0, 0, 10, 10)", x.inked(0, 0, 0, 10, 10), 40);

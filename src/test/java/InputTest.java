@@ -148,11 +148,29 @@ public final class InputTest {
         Due.badState("load once more", () -> x.load(2));
     }
 
+    /** What was read before must not be left in what is read next. */
+    private static void readAnew() {
+        String[] before = {"-", "3,1;-1,-", "1,1;1,1s*", "8,8;8,8b*"};
+        for (String text : before) {
+            HalftoneScreens x = new HalftoneScreens();
+            Due.type(x, text);
+            x.firstError();
+            x.clearInput();
+            Due.type(x, "4,1;0,4r");
+            Due.same("load after " + text, x.load(0), 16);
+            int[] due = {4, 1, 0, 4, 16, 16, 4, 1, 0, 0, 0};
+            for (int what = 0; what < due.length; what++) {
+                Due.same("after " + text + ", property " + what, x.screen(0, what), due[what]);
+            }
+        }
+    }
+
     public static void main(String[] args) {
         promise2();
         promise3();
         promise4();
         promise5();
+        readAnew();
         Due.finish("InputTest");
     }
 }

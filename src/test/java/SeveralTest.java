@@ -32,6 +32,14 @@ public final class SeveralTest {
         period(x, 3, 80, 20, 12, 4);
         period(x, 6, 16, 4, 0, 4);
         period(x, 7, 80, 20, 12, 4);
+        x.setScreen(0, 3, 2, -2, 4, 0);
+        x.setScreen(1, 5, 2, 1, 4, 0);
+        x.setScreen(2, 2, 6, 4, -3, 0);
+        period(x, 3, 144, 72, 59, 2);
+        period(x, 5, 480, 40, 34, 12);
+        period(x, 6, 540, 90, 42, 6);
+        beat(x, 0, 1, 2, 1, 0, 2);
+        beat(x, 0, 2, 1, 1, 0, 1);
         x.setScreen(0, 8, 7, 2, -6, 0);
         x.setScreen(1, 8, 5, 1, 8, 0);
         x.setScreen(2, 7, -2, 1, 8, 0);
