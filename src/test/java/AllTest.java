@@ -1,7 +1,8 @@
+import java.util.ArrayList;
+import java.util.List;
+
 /** Promises 29 and 30: count and digest, and that a refused call changes nothing. */
 public final class AllTest {
-    private static long hash;
-
     private AllTest() {
     }
 
@@ -21,43 +22,47 @@ public final class AllTest {
         Due.badArgument("count(-1)", () -> x.count(-1));
     }
 
-    private static void mix(long x) {
-        hash = 31 * hash + x;
-    }
-
-    /** The digest as the document tells it, made of the answers of the other calls. */
-    private static long dueDigest(HalftoneScreens x, boolean[] has, String text) {
-        hash = 1951;
+    /** The values of the digest as the document tells them, made of the answers of the other calls. */
+    static List<Integer> valuesOf(HalftoneScreens x, boolean[] has, String text) {
+        List<Integer> values = new ArrayList<>();
         for (int what = 0; what <= 4; what++) {
-            mix(x.count(what));
+            values.add(x.count(what));
         }
         for (int slot = 0; slot < 3; slot++) {
-            mix(has[slot] ? 1 : 0);
+            values.add(has[slot] ? 1 : 0);
             if (has[slot]) {
                 for (int what = 0; what <= 10; what++) {
-                    mix(x.screen(slot, what));
+                    values.add(x.screen(slot, what));
                 }
                 for (int place = 0; place < x.screen(slot, 4); place++) {
-                    mix(x.growth(slot, place, 0));
-                    mix(x.growth(slot, place, 1));
+                    values.add(x.growth(slot, place, 0));
+                    values.add(x.growth(slot, place, 1));
                 }
                 int tint = x.screen(slot, 10);
-                mix(x.dots(slot, tint));
-                mix(x.joined(slot, tint));
-                mix(x.strength(slot, tint));
+                values.add(x.dots(slot, tint));
+                values.add(x.joined(slot, tint));
+                values.add(x.strength(slot, tint));
             }
         }
         for (int one = 0; one < 3; one++) {
             for (int other = one + 1; other < 3; other++) {
                 for (int what = 0; what < 8; what++) {
                     if (has[one] && has[other]) {
-                        mix(what < 4 ? x.period((1 << one) + (1 << other), what) : x.beat(one, other, what - 4));
+                        values.add(what < 4 ? x.period((1 << one) + (1 << other), what) : x.beat(one, other, what - 4));
                     }
                 }
             }
         }
         for (int index = 0; index < text.length(); index++) {
-            mix(text.charAt(index));
+            values.add((int) text.charAt(index));
+        }
+        return values;
+    }
+
+    private static long dueDigest(HalftoneScreens x, boolean[] has, String text) {
+        long hash = 1951;
+        for (int value : valuesOf(x, has, text)) {
+            hash = 31 * hash + value;
         }
         return hash;
     }

@@ -2,6 +2,7 @@
 final class Due {
     private static int checks = 0;
     private static int wrong = 0;
+    private static String sentence = "";
 
     private Due() {
     }
@@ -55,8 +56,21 @@ final class Due {
     private static void report(String call, String what) {
         wrong++;
         if (wrong <= 30) {
-            System.out.println(call + ": " + what);
+            System.out.println(sentence + call + ": " + what);
         }
+    }
+
+    /** Runs the test of one sentence; it fails, too, if it checks nothing or if a call throws. */
+    static void holds(String name, Runnable test) {
+        int before = checks;
+        sentence = name + ": ";
+        try {
+            test.run();
+            same("the test makes checks", checks > before ? 1 : 0, 1);
+        } catch (RuntimeException e) {
+            report("a call that must not throw", "threw " + e);
+        }
+        sentence = "";
     }
 
     static void finish(String test) {
