@@ -34,6 +34,9 @@ public final class HalftoneScreens {
     // each pixel, and the one with the least u + v within 8 * sqrt(2) < 11.5 in each coordinate.
     private static final int REACH = 12;
 
+    // Above all values that the pixels within this reach can have.
+    private static final int FAR = 1 << 30;
+
     // Far above what any run of Euclid's steps needs for the numbers here.
     private static final int MOST_ROUNDS = 1000;
 
@@ -757,7 +760,7 @@ public final class HalftoneScreens {
         /** Looks at the pixels round one center: each place has a pixel there that is as near as any. */
         void findLeast(int[] row, int measure, boolean inMiddle) {
             for (int place = 0; place < area(); place++) {
-                put(row, place, Integer.MAX_VALUE);
+                put(row, place, FAR);
             }
             int twiceX = inMiddle ? a + c : 0;
             int twiceY = inMiddle ? b + d : 0;

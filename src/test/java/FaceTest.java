@@ -6,8 +6,11 @@ import java.lang.reflect.Modifier;
 import java.nio.file.Files;
 import java.nio.file.Path;
 import java.util.Arrays;
+import java.util.List;
 import java.util.Set;
 import java.util.TreeSet;
+import java.util.regex.Matcher;
+import java.util.regex.Pattern;
 
 /** The public face and the plain rules of LANGUAGE.md that can be seen in the class or its text. */
 public final class FaceTest {
@@ -20,6 +23,14 @@ public final class FaceTest {
         "mixture(int)int", "nearest(int,int,int,int)int", "count(int)int", "digest()long"};
     private static final String[] FOREIGN = {"import ", "package ", "->", "::", "finally", "synchronized", "assert ",
         "try {", "catch", "System.out", "System.nanoTime", "Math.random", "Exact", "protected", "record ", " toString"};
+    private static final Set<String> LIBRARY = Set.of("Math.abs", "Math.min", "Math.max", "Math.floorDiv",
+        "Math.floorMod", "System.arraycopy", "IllegalArgumentException", "IllegalStateException",
+        "IndexOutOfBoundsException");
+    private static final Pattern CAPITAL = Pattern.compile("\\b[A-Z][A-Za-z]*[a-z][A-Za-z]*\\b(\\.\\w+)?");
+    private static final Pattern COMMENT = Pattern.compile("/\\*.*?\\*/|//[^\n]*", Pattern.DOTALL);
+    private static final Pattern METHOD = Pattern.compile(" {4}( {4})?\\w[^=]*\\) (throws .*)?\\{");
+    private static final int MOST_PARAMETERS = 7;
+    private static final int MOST_LINES = 60;
 
     private FaceTest() {
     }
@@ -66,17 +77,81 @@ public final class FaceTest {
         }
     }
 
-    private static void text(String path) throws IOException {
-        String source = Files.readString(Path.of(path));
+    private static void text(String source) {
         for (String word : FOREIGN) {
             Due.same("places with " + word, source.indexOf(word), -1);
         }
     }
 
+    /** Reflection does not tell the order of a throws clause, so the lines themselves are compared. */
+    private static void asDocumented(String source, String document) {
+        int start = document.indexOf("public final class HalftoneScreens {");
+        int end = document.indexOf("```", start);
+        List<String> lines = Arrays.asList(document.substring(start, end).split("\n"));
+        Due.same("lines of the face", lines.size(), METHODS.length + 4);
+        for (String line : lines) {
+            String due = line.endsWith(");") || line.endsWith("Exception;") ? line.replace(";", " {") : line;
+            Due.same("the class has the line " + due, source.contains("\n" + due + "\n") ? 1 : 0, 1);
+        }
+    }
+
+    private static void library(String source) {
+        Set<String> own = new TreeSet<>();
+        own.add(HalftoneScreens.class.getSimpleName());
+        for (Class<?> inside : HalftoneScreens.class.getDeclaredClasses()) {
+            own.add(inside.getSimpleName());
+        }
+        Due.same("classes are few", own.size() <= 12 ? 1 : 0, 1);
+        String code = COMMENT.matcher(source).replaceAll("");
+        Matcher names = CAPITAL.matcher(code);
+        while (names.find()) {
+            String name = names.group();
+            boolean known = LIBRARY.contains(name) || own.contains(name.replaceAll("\\..*", ""));
+            Due.same(name + " is listed in LANGUAGE.md or the class's own", known ? 1 : 0, 1);
+        }
+    }
+
+    private static void sizes(String source) {
+        Due.same("parameters are few", mostParameters() <= MOST_PARAMETERS ? 1 : 0, 1);
+        String end = "";
+        int start = 0;
+        int methods = 0;
+        String[] lines = source.split("\n");
+        for (int number = 0; number < lines.length; number++) {
+            if (!end.isEmpty() && lines[number].equals(end)) {
+                Due.same("few lines up to line " + (number + 1), number - start < MOST_LINES ? 1 : 0, 1);
+                end = "";
+            } else if (end.isEmpty() && METHOD.matcher(lines[number]).matches()) {
+                end = lines[number].replaceAll("\\S.*", "}");
+                start = number;
+                methods++;
+            }
+        }
+        Due.same("there are methods", methods >= METHODS.length ? 1 : 0, 1);
+    }
+
+    private static int mostParameters() {
+        int most = 0;
+        for (Method method : HalftoneScreens.class.getDeclaredMethods()) {
+            most = Math.max(most, method.getParameterCount());
+        }
+        for (Class<?> inside : HalftoneScreens.class.getDeclaredClasses()) {
+            for (Method method : inside.getDeclaredMethods()) {
+                most = Math.max(most, method.getParameterCount());
+            }
+        }
+        return most;
+    }
+
     public static void main(String[] args) throws IOException {
+        String source = Files.readString(Path.of(args.length > 0 ? args[0] : "src/main/java/HalftoneScreens.java"));
+        String document = Files.readString(Path.of(args.length > 1 ? args[1] : "../shared/DOC.md")).replace("\r", "");
         methods();
         others();
-        text(args.length > 0 ? args[0] : "src/main/java/HalftoneScreens.java");
+        text(source);
+        asDocumented(source, document);
+        library(source);
+        sizes(source);
         Due.finish("FaceTest");
     }
 }
